@@ -132,6 +132,38 @@ final class ChangeTest {
         Check.due("30: shown once", 4, () -> flow.sink(0, 2));
 
         failLosesClosed();
+        failFrees();
+    }
+
+    // channels are blocked, and both an instance and the sink took from channel 0 last, when the flow fails
+    private static void failFrees() {
+        BarrierFlow flow = Flows.of("source a records 20 seed 0;source b records 20 seed 0 lag 9;instances 2;room 9;");
+        flow.run(1);
+        Check.due("12: source 0 was taken from", 1, () -> flow.sum(0));
+        flow.fail();
+        flow.run(1);
+        Check.due("30: and is again", 1, () -> flow.sum(0));
+        Check.due("30: source 1 is not", 0, () -> flow.sum(1));
+        flow.fail();
+        flow.begin(false);
+        flow.run(3);
+        Check.due("13: blocked", 1, () -> flow.instance(0, 2));
+        Check.due("13: blocked, too", 1, () -> flow.instance(1, 2));
+        flow.fail();
+        Check.due("30: not blocked", 0, () -> flow.instance(0, 2));
+        Check.due("30: not blocked, either", 0, () -> flow.instance(1, 2));
+        flow.run(1);
+        Check.due("30: source 0 is taken from", 1, () -> flow.sum(0));
+
+        // both instances have results on the way; the sink took from instance 0 last
+        BarrierFlow sink = Flows.of("source a records 20 seed 0;source b records 20 seed 1;instances 2;room 9;");
+        sink.run(1);
+        Check.due("17: the sink took from instance 0", 0, () -> sink.outChannel(0, 0, false));
+        Check.due("17: not from instance 1", 1, () -> sink.outChannel(1, 0, false));
+        sink.fail();
+        sink.run(1);
+        Check.due("30: it takes from instance 0 again", 0, () -> sink.outChannel(0, 0, false));
+        Check.due("30: not from instance 1", 1, () -> sink.outChannel(1, 0, false));
     }
 
     // two sinks: sink 0 closed its results, sink 1 still waits for a barrier, when the flow fails
@@ -273,6 +305,34 @@ final class ChangeTest {
         flow.run(500);
         flow.setEvery(1, false);
         flow.run(100);
+        sumsInOrder(flow);
+        rescaleSpreadsForTwoSinks();
+    }
+
+    // the ways of three instances to two sinks are kept, and come to two other instances
+    private static void rescaleSpreadsForTwoSinks() {
+        BarrierFlow flow = Flows.of("source a records 60 seed 0;source b records 60 seed 1;source c records 60 seed 2;"
+                + "source d records 60 seed 3;instances 3;sinks 2;room 9;");
+        flow.run(35);
+        flow.begin(true);
+        flow.run(1);
+        int[] results = new int[2];
+        flow.fail();
+        for (int k = 0; k < 2; k++) {
+            for (int i = 0; i < 3; i++) {
+                results[k] += flow.outChannel(i, k, false);
+            }
+        }
+        Check.due("17: to both sinks", true, () -> results[0] > 0 && results[1] > 0);
+        flow.rescale(2);
+        for (int k = 0; k < 2; k++) {
+            int sink = k;
+            Check.due("31: results stay with sink " + k, results[k],
+                    () -> flow.outChannel(0, sink, false) + flow.outChannel(1, sink, false));
+        }
+        flow.run(300);
+        flow.begin(false);
+        flow.run(50);
         sumsInOrder(flow);
     }
 

@@ -9,6 +9,8 @@ final class CheckpointTest {
         byThemselves();
         numbersBehindFailures();
         lagOfLater();
+        keptOfLaterOnes();
+        instancesNoteTheirOwn();
         Check.end("CheckpointTest");
     }
 
@@ -150,6 +152,56 @@ final class CheckpointTest {
                 Check.due("12: sum of key " + k, flow.expected(key, all), () -> flow.sum(key));
             }
         }
+    }
+
+    // a checkpoint keeps nothing of the ones before it
+    private static void keptOfLaterOnes() {
+        BarrierFlow flow = Flows.of("source a records 90 seed 0;source b records 90 seed 1;source c records 90 seed 2;"
+                + "instances 3;sinks 2;room 4;");
+        for (int n = 1; n <= 5; n++) {
+            flow.run(7);
+            flow.begin(true);
+            flow.run(1);
+            int kept = flow.completed(4);
+            Check.due("19: something is kept", true, () -> kept > 0);
+            flow.fail();
+            int there = 0;
+            for (int i = 0; i < 3; i++) {
+                there += flow.instance(i, 3) + flow.instance(i, 4);
+            }
+            int again = there;
+            Check.due("30: what checkpoint " + n + " kept, no more", kept, () -> again);
+        }
+        onceEach(flow, 90);
+    }
+
+    // an aligning checkpoint comes to the instances at different ticks: each notes the sums of its own keys
+    private static void instancesNoteTheirOwn() {
+        BarrierFlow flow = Flows.of("source a records 60 seed 0;source b records 60 seed 1;source c records 60 seed 2;"
+                + "instances 3;sinks 2;room 4;");
+        flow.run(9);
+        flow.begin(false);
+        int[] sums = new int[16];
+        for (int t = 0; t < 60 && flow.progress(0) == 1; t++) {
+            flow.run(1);
+        }
+        for (int key = 0; key < 16; key++) {
+            int many = 0;
+            for (int i = 0; key % 4 < 3 && i < flow.notedPosition(key % 4); i++) {
+                many += flow.record(key % 4, i, 0) == key ? 1 : 0;
+            }
+            sums[key] = many == 0 ? 0 : flow.expected(key, many);
+        }
+        int later = 0;
+        for (int k = 0; k < 16; k++) {
+            int key = k;
+            Check.due("21: all that was sent before the barriers, key " + k, sums[k], () -> flow.notedSum(key));
+            later += flow.sum(k) > sums[k] ? 1 : 0;
+        }
+        int changed = later;
+        Check.due("12: some sums have changed since", true, () -> changed > 2);
+        flow.fail();
+        onceEach(flow, 60);
     }
 
     private static void byThemselves() {

@@ -143,7 +143,8 @@ final class ForecastTest {
     }
 
     private static void bestInstances() {
-        for (int ticks : new int[] {1, 2, 5, 9, 30, 100}) {
+        for (int t = 1; t <= 40; t++) {
+            int ticks = t;
             for (int before = 1; before <= 4; before++) {
                 int best = 0;
                 int most = -1;

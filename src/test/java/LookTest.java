@@ -9,6 +9,9 @@ final class LookTest {
         counts();
         blocked();
         turns();
+        secondSink();
+        resultsOfBothSinks();
+        barrierInChannel();
         shown();
         Check.end("LookTest");
     }
@@ -225,6 +228,73 @@ final class LookTest {
         sinks.run(1);
         Check.due("14: none is closed", 0, () -> sinks.sink(0, 1));
         Check.due("14: they are shown", 4, () -> sinks.sink(0, 2));
+    }
+
+    private static void resultsOfBothSinks() {
+        // one instance, two sinks, and results that come again by a failure: both its ways hold some
+        BarrierFlow flow = Flows.of("source a records 60 seed 0;source b records 60 seed 1;source c records 60 seed 2;"
+                + "source d records 60 seed 3;instances 4;sinks 2;room 3;");
+        flow.run(20);
+        flow.begin(true);
+        flow.run(1);
+        flow.rescale(1);
+        int first = flow.outChannel(0, 0, false);
+        int second = flow.outChannel(0, 1, false);
+        Check.due("17: results to both sinks", true, () -> first > 0 && second > 0);
+        Check.due("13: results to both sinks", first + second, () -> flow.instance(0, 4));
+        int records = 0;
+        for (int s = 0; s < 4; s++) {
+            records += flow.inChannel(s, 0, false);
+        }
+        int kept = records + first + second;
+        Check.due("19: kept in all", kept, () -> flow.completed(4));
+        for (int tick = 1; tick <= 2; tick++) {
+            int many = tick;
+            flow.run(1);
+            Check.due("14: sink 0 takes one", many, () -> flow.sink(0, 0));
+            Check.due("14: sink 1 takes one", many, () -> flow.sink(1, 0));
+        }
+    }
+
+    // a barrier stands in the very first channel, behind a record
+    private static void barrierInChannel() {
+        BarrierFlow flow = Flows.of("source a records 9 seed 0;source b records 9 seed 0;");
+        flow.run(4);
+        flow.begin(false);
+        flow.run(1);
+        Check.due("16: source 0's barrier waits", 1, () -> flow.inChannel(0, 0, true));
+        Check.due("16: source 1's barrier waits", 1, () -> flow.inChannel(1, 0, true));
+        Check.due("16: records beside it", 2, () -> flow.inChannel(0, 0, false));
+        Check.due("13: records alone", 5, () -> flow.instance(0, 3));
+        Check.due("18: none arrived", 0, () -> flow.progress(4));
+    }
+
+    // results of keys 4 and 12 go to sink 1, which is slower here: three of four results come to it
+    private static void secondSink() {
+        BarrierFlow flow = Flows.of("source a records 9 seed 1;source b records 9 seed 1;source c records 2 seed 0;"
+                + "instances 3;sinks 2;");
+        // first keys: 4 and 5 (owner 1), 2 (owner 0); instance 1 takes key 4, then 5, of sink 1
+        flow.run(1);
+        Check.due("14: key 2 is of sink 0", 1, () -> flow.sink(0, 0));
+        Check.due("14: key 4 is of sink 1", 1, () -> flow.sink(1, 0));
+        flow.begin(false);
+        int waits = 0;
+        int blocks = 0;
+        for (int t = 0; t < 9 && flow.progress(0) != -1; t++) {
+            flow.run(1);
+            waits += flow.outChannel(0, 1, true) + flow.outChannel(1, 1, true) + flow.outChannel(2, 1, true);
+            blocks |= flow.sink(1, 3);
+        }
+        int mask = blocks;
+        int many = waits;
+        Check.due("14: sink 1 blocked instances 0 and 2, that had nothing for it", 5, () -> mask & 5);
+        Check.due("17: barriers waited before sink 1", true, () -> many > 0);
+        Check.due("19: completed", 1, () -> flow.completed(0));
+        Check.due("14: closed by sink 1", true, () -> flow.sink(1, 1) > 1);
+        int closed = flow.sink(1, 1);
+        flow.run(1);
+        Check.due("14: shown by sink 1", closed, () -> flow.sink(1, 2));
+        Check.due("14: none closed by sink 1", 0, () -> flow.sink(1, 1));
     }
 
     // an instance begins behind the source that it took from last, also if that was several ticks ago

@@ -108,6 +108,19 @@ final class SetupTest {
             Check.due("4: count " + w + " again", plain[w], () -> flow.count(w));
         }
         Check.due("4: no lag", 0, () -> flow.source(0, 2));
+        Flows.parse(flow, "source a records 7 seed 7 lag 7;room 7");
+        Check.due("4: behind a text with an error", 1, () -> Flows.parse(flow, "source b records 0 seed 0;"));
+        Check.due("4: nothing stays of it, no lag", 0, () -> flow.source(0, 2));
+        Check.due("4: no room", 4, () -> flow.count(3));
+        Flows.parse(flow, "source a records 200 seed 0;source b records 200 seed 0;");
+        Flows.parse(flow, "source a records 2 seed 0;");
+        Check.due("4: fewer records in the second setup", 2, () -> Flows.parse(flow,
+                "source a records 1 seed 1;source b records 1 seed 0;"));
+        Check.due("23: one record of key 4", 1 + 1, () -> flow.expected(4, 1));
+        Check.due("23: no second one", -1, () -> flow.expected(4, 2));
+        Check.due("23: none of key 8", -1, () -> flow.expected(8, 1));
+        Check.due("23: one record of key 1", 1, () -> flow.expected(1, 1));
+        Check.due("23: no second one of key 1", -1, () -> flow.expected(1, 2));
         Check.due("4: names of before are gone", -1, () -> Flows.find(flow, "abcdefgh"));
     }
 
@@ -186,6 +199,12 @@ final class SetupTest {
         error("Source a", 1, 0);
         error("sources a records 1 seed 3;", 1, 0);
         error("sourcea records 1 seed 3;", 1, 0);
+        error("xource a records 1 seed 3;", 1, 0);
+        error("source a xecords 1 seed 3;", 1, 9);
+        error("toom 3;", 1, 0);
+        error("roo 3;", 1, 0);
+        error("roox 3;", 1, 0);
+        good("source zaz records 1 seed 3;source z records 1 seed 3;", 2);
         error("source", 1, 6);
         error("source  \n", 1, 9);
         error("source\ta", 1, 6);
