@@ -131,7 +131,7 @@ public final class BarrierFlow {
     }
 
     public int find() {
-        int found = setup.named(input, 0, input.length);
+        int found = setup.named(input.bytes, 0, input.length);
         input.length = 0;
         return found;
     }
@@ -415,7 +415,12 @@ public final class BarrierFlow {
     }
 
     public int wouldKeep() {
-        return wouldTake(true) == NONE ? NONE : trial.latest.keptInAll;
+        if (now.pending.exists()) {
+            return NONE;
+        }
+        trial.copyFrom(now);
+        trial.startCheckpoint(true);
+        return trial.ticksToCompletion(MOST_TICKS) == NONE ? NONE : trial.latest.keptInAll;
     }
 
     public int quietIn() {
@@ -696,17 +701,16 @@ public final class BarrierFlow {
             return settings[setting];
         }
 
-        void setName(int source, Input text, int from, int length) {
-            if (source < 0 || source >= MOST_SOURCES || length > MOST_LETTERS) {
+        void setName(int source, byte[] text, int from, int length) {
+            if (source < 0 || source >= MOST_SOURCES || length < 0 || length > MOST_LETTERS
+                    || from < 0 || from + length > text.length) {
                 return;
             }
-            for (int i = 0; i < length; i++) {
-                letters[MOST_LETTERS * source + i] = (byte) text.byteAt(from + i);
-            }
+            System.arraycopy(text, from, letters, MOST_LETTERS * source, length);
             nameLengths[source] = length;
         }
 
-        int named(Input text, int from, int length) {
+        int named(byte[] text, int from, int length) {
             for (int s = 0; s < sources; s++) {
                 if (isName(s, text, from, length)) {
                     return s;
@@ -715,12 +719,12 @@ public final class BarrierFlow {
             return NONE;
         }
 
-        private boolean isName(int source, Input text, int from, int length) {
-            if (length != nameLengths[source] || length > MOST_LETTERS) {
+        private boolean isName(int source, byte[] text, int from, int length) {
+            if (length != nameLengths[source] || length > MOST_LETTERS || from < 0 || from + length > text.length) {
                 return false;
             }
             for (int i = 0; i < length; i++) {
-                if (letters[MOST_LETTERS * source + i] != text.byteAt(from + i)) {
+                if (letters[MOST_LETTERS * source + i] != text[from + i]) {
                     return false;
                 }
             }
@@ -856,10 +860,10 @@ public final class BarrierFlow {
             if (kind != LETTERS || to - from > MOST_LETTERS || quotedWord() != null) {
                 return refuse(UNFIT);
             }
-            if (setup.named(text, from, to - from) != NONE) {
+            if (setup.named(text.bytes, from, to - from) != NONE) {
                 return refuse(REPEATED);
             }
-            setup.setName(source, text, from, to - from);
+            setup.setName(source, text.bytes, from, to - from);
             advance();
             return true;
         }
@@ -974,7 +978,7 @@ public final class BarrierFlow {
         }
 
         void clear(int list) {
-            if (isList(list)) {
+            if (list >= 0 && list < LISTS) {
                 first[list] = NONE;
                 last[list] = NONE;
                 size[list] = 0;
@@ -1015,7 +1019,12 @@ public final class BarrierFlow {
             if (!isList(list) || !isRecord(record)) {
                 return;
             }
-            link(list, record);
+            int tail = last[list];
+            if (isRecord(tail)) {
+                next[tail] = record;
+            } else {
+                first[list] = record;
+            }
             next[record] = NONE;
             last[list] = record;
             size[list]++;
@@ -1038,18 +1047,15 @@ public final class BarrierFlow {
             if (!isList(from) || !isList(to) || from == to || size[from] == 0) {
                 return;
             }
-            link(to, first[from]);
+            int tail = last[to];
+            if (isRecord(tail)) {
+                next[tail] = first[from];
+            } else {
+                first[to] = first[from];
+            }
             last[to] = last[from];
             size[to] += size[from];
             clear(from);
-        }
-
-        private void link(int list, int record) {
-            if (isRecord(last[list])) {
-                next[last[list]] = record;
-            } else {
-                first[list] = record;
-            }
         }
 
         private static boolean isList(int list) {
@@ -1128,15 +1134,14 @@ public final class BarrierFlow {
             return (put >> source & 1) == 1;
         }
 
+        /** Whether its first barrier has arrived at the receiver, but none from this sender. */
+        boolean isOnlyBehind(int receiver, int sender) {
+            return arrived[receiver] != 0 && (arrived[receiver] >> sender & 1) == 0;
+        }
+
         void keep(int channel, int record) {
             kept.add(channel, record);
             keptInAll++;
-        }
-
-        void keepIfOvertaken(int receiver, int sender, int record) {
-            if (isOvertaking() && arrived[receiver] != 0 && (arrived[receiver] >> sender & 1) == 0) {
-                keep(channel(receiver, sender), record);
-            }
         }
 
         void spread(Setup setup, int before, int after) {
@@ -1201,7 +1206,6 @@ public final class BarrierFlow {
             finished = 0;
             sent = 0;
             copyRow(setup.lags, lags);
-            pending.number = 0;
             latest.number = 0;
             lists.clearAll();
             recover();
@@ -1240,16 +1244,20 @@ public final class BarrierFlow {
                 putBarriers(s);
                 sendRecord(s);
             }
-            letBarriersOvertake(0, instances, setup.sources);
+            letBarriersOvertake(0, instances);
             for (int i = 0; i < instances; i++) {
-                takeOneThing(i, setup.sources);
+                take(i, senderInTurn(i));
             }
-            letBarriersOvertake(FIRST_SINK, setup.sinks, instances);
+            letBarriersOvertake(FIRST_SINK, setup.sinks);
             for (int k = 0; k < setup.sinks; k++) {
-                takeOneThing(FIRST_SINK + k, instances);
+                take(FIRST_SINK + k, senderInTurn(FIRST_SINK + k));
             }
             completeIfAllArrived();
             time++;
+        }
+
+        private int sendersTo(int receiver) {
+            return receiver < FIRST_SINK ? setup.sources : instances;
         }
 
         int ticksToCompletion(int ticks) {
@@ -1285,12 +1293,7 @@ public final class BarrierFlow {
             pending.put |= 1 << source;
             pending.positions[source] = positions[source];
             for (int i = 0; i < instances; i++) {
-                putBarrier(channel(i, source));
-            }
-        }
-
-        private void putBarrier(int channel) {
-            if (channel >= 0 && channel < CHANNELS) {
+                int channel = channel(i, source);
                 barriers[channel] = lists.sizeOf(channel);
             }
         }
@@ -1308,32 +1311,32 @@ public final class BarrierFlow {
             }
         }
 
-        private void letBarriersOvertake(int firstReceiver, int receivers, int senders) {
+        private void letBarriersOvertake(int firstReceiver, int receivers) {
             if (!pending.isOvertaking()) {
                 return;
             }
             for (int r = firstReceiver; r < firstReceiver + receivers; r++) {
-                for (int sender = 0; sender < senders; sender++) {
+                for (int sender = 0; sender < sendersTo(r); sender++) {
                     if (barriers[channel(r, sender)] != NONE) {
-                        letBarrierArrive(r, sender, senders);
+                        letBarrierArrive(r, sender);
                     }
                 }
             }
         }
 
-        private void takeOneThing(int receiver, int senders) {
+        private int senderInTurn(int receiver) {
+            int senders = sendersTo(receiver);
             int sender = turns[receiver];
             for (int n = 0; n < senders; n++) {
                 if (sender >= senders) {
                     sender = 0;
                 }
                 if (canBeTaken(receiver, sender)) {
-                    turns[receiver] = sender + 1;
-                    take(receiver, sender, senders);
-                    return;
+                    return sender;
                 }
                 sender++;
             }
+            return NONE;
         }
 
         private boolean canBeTaken(int receiver, int sender) {
@@ -1355,27 +1358,41 @@ public final class BarrierFlow {
             return channel(FIRST_SINK + setup.sinkOf(setup.keyOf(record)), instance);
         }
 
-        private void take(int receiver, int sender, int senders) {
+        private void take(int receiver, int sender) {
+            if (sender == NONE) {
+                return;
+            }
+            turns[receiver] = sender + 1;
             int channel = channel(receiver, sender);
             if (barriers[channel] == 0) {
-                letBarrierArrive(receiver, sender, senders);
+                letBarrierArrive(receiver, sender);
                 return;
             }
             if (barriers[channel] > 0) {
                 barriers[channel]--;
             }
             int record = lists.takeFirst(channel);
-            pending.keepIfOvertaken(receiver, sender, record);
-            if (receiver >= FIRST_SINK) {
-                lists.add(OPEN + receiver - FIRST_SINK, record);
-                return;
+            if (pending.isOvertaking() && pending.isOnlyBehind(receiver, sender)) {
+                pending.keep(channel, record);
             }
-            sums[setup.keyOf(record)] += setup.valueOf(record);
-            handled[receiver]++;
-            lists.add(channelForResult(receiver, record), record);
+            if (receiver < FIRST_SINK) {
+                addUp(receiver, record);
+            } else {
+                lists.add(OPEN + receiver - FIRST_SINK, record);
+            }
         }
 
-        private void letBarrierArrive(int receiver, int sender, int senders) {
+        private void addUp(int instance, int record) {
+            int key = setup.keyOf(record);
+            if (key < 0 || key >= KEYS) {
+                return;
+            }
+            sums[key] += setup.valueOf(record);
+            handled[instance]++;
+            lists.add(channelForResult(instance, record), record);
+        }
+
+        private void letBarrierArrive(int receiver, int sender) {
             int channel = channel(receiver, sender);
             int before = barriers[channel];
             boolean isFirst = pending.arrived[receiver] == 0;
@@ -1389,16 +1406,17 @@ public final class BarrierFlow {
                 return;
             }
             blocked[receiver] |= 1 << sender;
-            if (Integer.bitCount(pending.arrived[receiver]) == senders) {
+            if (Integer.bitCount(pending.arrived[receiver]) == sendersTo(receiver)) {
                 cut(receiver);
                 blocked[receiver] = 0;
             }
         }
 
         private void keepFirst(int channel, int many) {
+            pending.keptInAll += many;
             int record = lists.firstOf(channel);
             for (int n = 0; n < many; n++) {
-                pending.keep(channel, record);
+                pending.kept.add(channel, record);
                 record = lists.behind(record);
             }
         }
@@ -1415,7 +1433,8 @@ public final class BarrierFlow {
                 }
             }
             for (int k = 0; k < setup.sinks; k++) {
-                putBarrier(channel(FIRST_SINK + k, receiver));
+                int channel = channel(FIRST_SINK + k, receiver);
+                barriers[channel] = lists.sizeOf(channel);
             }
         }
 

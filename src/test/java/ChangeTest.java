@@ -133,6 +133,26 @@ final class ChangeTest {
 
         failLosesClosed();
         failFrees();
+        closedForOneInProgress();
+    }
+
+    // sink 0 closed its results, and a tick later sink 1 still has not: they are not shown for the checkpoint before
+    private static void closedForOneInProgress() {
+        BarrierFlow flow = Flows.of("source a records 40 seed 0;source b records 40 seed 1;source c records 40 seed 2;"
+                + "source d records 40 seed 3;instances 3;sinks 2;room 2;");
+        flow.begin(true);
+        flow.run(10);
+        Check.due("19: the one before is shown", 1, () -> flow.completed(5));
+        flow.begin(false);
+        flow.run(10);
+        Check.due("14: sink 0 closed", 17, () -> flow.sink(0, 1));
+        flow.run(1);
+        Check.due("18: still in progress", 2, () -> flow.progress(0));
+        Check.due("14: closed a tick later", 17, () -> flow.sink(0, 1));
+        Check.due("14: none is shown", 0, () -> flow.sink(0, 2));
+        flow.fail();
+        Check.due("30: they are lost", 0, () -> flow.sink(0, 1));
+        Check.due("30: and not shown for the one before", 0, () -> flow.sink(0, 2));
     }
 
     // channels are blocked, and both an instance and the sink took from channel 0 last, when the flow fails
@@ -330,6 +350,14 @@ final class ChangeTest {
             Check.due("31: results stay with sink " + k, results[k],
                     () -> flow.outChannel(0, sink, false) + flow.outChannel(1, sink, false));
         }
+        flow.rescale(4);
+        String four = channels(flow);
+        flow.rescale(1);
+        Check.due("31: all results of sink 0 from one instance", results[0], () -> flow.outChannel(0, 0, false));
+        Check.due("31: all results of sink 1 from one instance", results[1], () -> flow.outChannel(0, 1, false));
+        flow.rescale(4);
+        Check.due("31: results go to their new owners", four, () -> channels(flow));
+        Check.due("31: not all from instance 0", true, () -> flow.outChannel(0, 0, false) < results[0]);
         flow.run(300);
         flow.begin(false);
         flow.run(50);

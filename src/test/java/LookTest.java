@@ -12,6 +12,7 @@ final class LookTest {
         secondSink();
         resultsOfBothSinks();
         barrierInChannel();
+        barriersOfFour();
         shown();
         Check.end("LookTest");
     }
@@ -267,6 +268,23 @@ final class LookTest {
         Check.due("16: records beside it", 2, () -> flow.inChannel(0, 0, false));
         Check.due("13: records alone", 5, () -> flow.instance(0, 3));
         Check.due("18: none arrived", 0, () -> flow.progress(4));
+    }
+
+    // sources put barriers for the instances alone, of which there are as many as there can be
+    private static void barriersOfFour() {
+        BarrierFlow flow = Flows.of("source a records 9 seed 0;source b records 9 seed 0 lag 9;source c records 9 seed 0;"
+                + "source d records 9 seed 0;instances 4;sinks 2;");
+        flow.begin(false);
+        flow.run(4);
+        Check.due("18: three sources put theirs", 3, () -> flow.progress(3));
+        for (int i = 0; i < 4; i++) {
+            int instance = i;
+            Check.due("17: none to sink 0 from instance " + i, 0, () -> flow.outChannel(instance, 0, true));
+            Check.due("17: none to sink 1 from instance " + i, 0, () -> flow.outChannel(instance, 1, true));
+            Check.due("13: blocked by instance " + i, 13, () -> flow.instance(instance, 2));
+        }
+        Check.due("14: sink 0 blocks none", 0, () -> flow.sink(0, 3));
+        Check.due("18: none arrived at sinks", 0, () -> flow.progress(5));
     }
 
     // results of keys 4 and 12 go to sink 1, which is slower here: three of four results come to it
