@@ -6,6 +6,7 @@ final class Check {
 
     private static int passed = 0;
     private static int failed = 0;
+    private static String heading = "";
 
     private Check() {
     }
@@ -19,13 +20,22 @@ final class Check {
         }
     }
 
+    /** What is printed before each check that follows. */
+    static void under(String text) {
+        heading = text;
+    }
+
+    static int made() {
+        return passed + failed;
+    }
+
     static void due(String what, Object due, Call call) {
         String got = answerOf(call);
         if (got.equals(String.valueOf(due))) {
             passed++;
         } else {
             failed++;
-            System.out.println(what + ": answered " + got + ", due is " + due);
+            System.out.println(heading + what + ": answered " + got + ", due is " + due);
         }
     }
 
@@ -39,6 +49,10 @@ final class Check {
 
     static void tooEarly(String what, Call call) {
         due(what, "throws.IllegalStateException", call);
+    }
+
+    static void noSuch(String what, Call call) {
+        due(what, "throws.NoSuchElementException", call);
     }
 
     /** Ends the test: exit code 1 if a check failed. */

@@ -52,4 +52,72 @@ final class Flows {
         }
         return text.toString();
     }
+
+    static String print(BarrierFlow flow, int sink) {
+        flow.printSink(sink);
+        return output(flow);
+    }
+
+    /** What the methods tell of a flow, but for the changes that can be undone; some 180 calls at most. */
+    static String look(BarrierFlow flow) {
+        StringBuilder text = new StringBuilder();
+        for (int what = 0; what <= 11; what++) {
+            text.append(what == 10 ? 0 : flow.count(what)).append(' ');
+        }
+        text.append("sources");
+        for (int s = 0; s < flow.count(0); s++) {
+            lookAtSource(flow, s, text);
+        }
+        text.append("\ninstances");
+        for (int i = 0; i < flow.count(1); i++) {
+            lookAtInstance(flow, i, text);
+        }
+        text.append("\nsinks");
+        for (int k = 0; k < flow.count(2); k++) {
+            lookAtSink(flow, k, text);
+        }
+        text.append("\nkeys");
+        for (int key = 0; key < 16; key++) {
+            text.append(' ').append(flow.sum(key)).append('/').append(flow.notedSum(key)).append('/')
+                    .append(flow.shownOf(key));
+        }
+        text.append("\ncheckpoints");
+        for (int what = 0; what <= 6; what++) {
+            text.append(' ').append(flow.progress(what)).append('/').append(what < 6 ? flow.completed(what) : 0);
+        }
+        text.append("\naccounts ").append(flow.atRisk()).append(' ').append(flow.repeated()).append(' ')
+                .append(flow.skew()).append(' ').append(flow.fullest());
+        return text.toString();
+    }
+
+    private static void lookAtSource(BarrierFlow flow, int source, StringBuilder text) {
+        for (int what = 0; what <= 3; what++) {
+            text.append(' ').append(flow.source(source, what));
+        }
+        text.append('/').append(flow.notedPosition(source));
+        for (int i = 0; i < flow.count(1); i++) {
+            text.append('/').append(flow.inChannel(source, i, false)).append('+')
+                    .append(flow.inChannel(source, i, true));
+        }
+    }
+
+    private static void lookAtInstance(BarrierFlow flow, int instance, StringBuilder text) {
+        for (int what = 0; what <= 4; what++) {
+            text.append(' ').append(flow.instance(instance, what));
+        }
+        for (int k = 0; k < flow.count(2); k++) {
+            text.append('/').append(flow.outChannel(instance, k, false)).append('+')
+                    .append(flow.outChannel(instance, k, true));
+        }
+    }
+
+    private static void lookAtSink(BarrierFlow flow, int sink, StringBuilder text) {
+        for (int what = 0; what <= 3; what++) {
+            text.append(' ').append(flow.sink(sink, what));
+        }
+        int last = flow.sink(sink, 2) - 1;
+        if (last >= 0) {
+            text.append('/').append(flow.shown(sink, last, 0)).append('=').append(flow.shown(sink, last, 1));
+        }
+    }
 }
