@@ -17,35 +17,6 @@ final class ChangeTest {
         Check.end("ChangeTest");
     }
 
-    /** All that the methods tell of a flow, as text. */
-    static String all(BarrierFlow flow) {
-        StringBuilder text = new StringBuilder();
-        for (int x = 0; x <= 16; x++) {
-            for (int y = 0; y <= 5; y++) {
-                int a = x;
-                int b = y;
-                text.append(Check.answerOf(() -> flow.source(a, b))).append(' ');
-                text.append(Check.answerOf(() -> flow.instance(a, b))).append(' ');
-                text.append(Check.answerOf(() -> flow.sink(a, b))).append(' ');
-                text.append(Check.answerOf(() -> flow.inChannel(a, b, false))).append(' ');
-                text.append(Check.answerOf(() -> flow.inChannel(a, b, true))).append(' ');
-                text.append(Check.answerOf(() -> flow.outChannel(a, b, false))).append(' ');
-                text.append(Check.answerOf(() -> flow.outChannel(a, b, true))).append(' ');
-            }
-            int a = x;
-            text.append(a == 10 ? 0 : flow.count(a)).append(' ');
-            text.append(Check.answerOf(() -> flow.progress(a))).append(' ');
-            text.append(Check.answerOf(() -> flow.completed(a))).append(' ');
-            text.append(Check.answerOf(() -> flow.notedPosition(a))).append(' ');
-            text.append(Check.answerOf(() -> flow.notedSum(a))).append(' ');
-            text.append(Check.answerOf(() -> flow.sum(a))).append(' ');
-            text.append(Check.answerOf(() -> flow.owner(a))).append(' ');
-            text.append(Check.answerOf(() -> flow.shownOf(a))).append('\n');
-        }
-        text.append(flow.repeated()).append(' ').append(flow.skew()).append(' ').append(flow.atRisk());
-        return text.toString();
-    }
-
     private static void run() {
         BarrierFlow flow = Flows.of("source a records 50 seed 0;every 5;overtake;");
         Check.due("28: 1 tick, begun and completed at time 0", 1, () -> flow.run(1));
@@ -66,7 +37,7 @@ final class ChangeTest {
             many.run(1);
         }
         once.run(33);
-        Check.due("28: 33 times a tick is 33 ticks", all(once), () -> all(many));
+        Check.due("28: 33 times a tick is 33 ticks", Flows.look(once), () -> Flows.look(many));
     }
 
     private static void begin() {
@@ -266,11 +237,14 @@ final class ChangeTest {
 
     private static String channels(BarrierFlow flow) {
         StringBuilder text = new StringBuilder();
-        for (int i = 0; i < flow.count(1); i++) {
-            for (int s = 0; s < flow.count(0); s++) {
+        int instances = flow.count(1);
+        int sources = flow.count(0);
+        int sinks = flow.count(2);
+        for (int i = 0; i < instances; i++) {
+            for (int s = 0; s < sources; s++) {
                 text.append(flow.inChannel(s, i, false)).append(' ');
             }
-            for (int k = 0; k < flow.count(2); k++) {
+            for (int k = 0; k < sinks; k++) {
                 text.append(flow.outChannel(i, k, false)).append(' ');
             }
         }
@@ -279,33 +253,38 @@ final class ChangeTest {
 
     /** Every result that is shown is the sum of the first records of its key. */
     private static void sumsInOrder(BarrierFlow flow) {
+        int[] seeds = new int[4];
         int[] seen = new int[16];
-        for (int k = 0; k < flow.count(2); k++) {
+        int records = 0;
+        for (int s = 0; s < flow.count(0); s++) {
+            seeds[s] = flow.source(s, 1);
+            records += flow.source(s, 0);
+        }
+        int sinks = flow.count(2);
+        for (int k = 0; k < sinks; k++) {
             int sink = k;
-            for (int n = 0; n < flow.sink(sink, 2); n++) {
+            int size = flow.sink(sink, 2);
+            for (int n = 0; n < size; n++) {
                 int index = n;
                 int key = flow.shown(sink, index, 0);
                 seen[key]++;
-                Check.due("31: result " + n + " of sink " + k, flow.expected(key, seen[key]),
+                Check.due("31: result " + n + " of sink " + k, Flows.sumOf(key, seeds[key % 4], seen[key]),
                         () -> flow.shown(sink, index, 1));
             }
         }
         int shown = 0;
-        int records = 0;
-        for (int s = 0; s < flow.count(0); s++) {
-            records += flow.source(s, 0);
-        }
         for (int many : seen) {
             shown += many;
         }
         int all = shown;
-        Check.due("31: every record once", records, () -> all);
+        int due = records;
+        Check.due("31: every record once", due, () -> all);
     }
 
     // four instances fill the ways to the one sink; then one instance owns them all
     private static void rescaleSpreadsResults() {
-        BarrierFlow flow = Flows.of("source a records 60 seed 0;source b records 60 seed 1;source c records 60 seed 2;"
-                + "source d records 60 seed 3;instances 4;room 5;");
+        BarrierFlow flow = Flows.of("source a records 40 seed 0;source b records 40 seed 1;source c records 40 seed 2;"
+                + "source d records 40 seed 3;instances 4;room 5;");
         flow.run(40);
         flow.begin(true);
         flow.run(1);
@@ -331,8 +310,8 @@ final class ChangeTest {
 
     // the ways of three instances to two sinks are kept, and come to two other instances
     private static void rescaleSpreadsForTwoSinks() {
-        BarrierFlow flow = Flows.of("source a records 60 seed 0;source b records 60 seed 1;source c records 60 seed 2;"
-                + "source d records 60 seed 3;instances 3;sinks 2;room 9;");
+        BarrierFlow flow = Flows.of("source a records 50 seed 0;source b records 50 seed 1;source c records 50 seed 2;"
+                + "source d records 50 seed 3;instances 3;sinks 2;room 9;");
         flow.run(35);
         flow.begin(true);
         flow.run(1);
@@ -431,22 +410,29 @@ final class ChangeTest {
         void on(BarrierFlow flow);
     }
 
+    private static BarrierFlow afterTicks(int ticks) {
+        BarrierFlow flow = Flows.of("source a records 50 seed 0;source b records 50 seed 8 lag 3;"
+                + "every 5;overtake;instances 3;sinks 2;room 3;");
+        flow.run(ticks);
+        return flow;
+    }
+
     private static void undoEach() {
         Change[] changes = {f -> f.run(7), f -> f.run(500), f -> f.fail(), f -> f.rescale(1), f -> f.rescale(4),
             f -> f.setRoom(1), f -> f.setLag(1, 9), f -> f.setEvery(0, true), f -> f.setEvery(1, false)};
         for (int c = 0; c < changes.length; c++) {
             for (int ticks = 20; ticks < 26; ticks++) {
-                BarrierFlow flow = Flows.of("source a records 50 seed 0;source b records 50 seed 8 lag 3;"
-                        + "every 5;overtake;instances 3;sinks 2;room 3;");
-                flow.run(ticks);
-                String before = all(flow);
-                changes[c].on(flow);
-                String after = all(flow);
+                BarrierFlow changed = afterTicks(ticks);
+                String before = Flows.look(changed);
+                changes[c].on(changed);
+                String after = Flows.look(changed);
                 Check.due("35: change " + c + " changes", false, () -> before.equals(after));
-                Check.due("35: undo of change " + c, 1, flow::undo);
-                Check.due("35: all is as before change " + c, before, () -> all(flow));
-                changes[c].on(flow);
-                Check.due("35: change " + c + " once more", after, () -> all(flow));
+                BarrierFlow undone = afterTicks(ticks);
+                changes[c].on(undone);
+                Check.due("35: undo of change " + c, 1, undone::undo);
+                Check.due("35: all is as before change " + c, before, () -> Flows.look(undone));
+                changes[c].on(undone);
+                Check.due("35: change " + c + " once more", after, () -> Flows.look(undone));
             }
         }
         BarrierFlow flow = Flows.of("source a records 50 seed 0 lag 1;");
@@ -491,7 +477,7 @@ final class ChangeTest {
     private static void failedChangesAreNone() {
         BarrierFlow flow = Flows.of("source a records 50 seed 0 lag 9;");
         flow.begin(true);
-        String before = all(flow);
+        String before = Flows.look(flow);
         Check.answerOf(() -> flow.run(0));
         Check.answerOf(() -> flow.begin(true));
         Check.answerOf(() -> flow.rescale(5));
@@ -500,7 +486,7 @@ final class ChangeTest {
         Check.answerOf(() -> flow.setLag(1, 1));
         Check.answerOf(() -> flow.setEvery(100, true));
         Check.due("35: only begin can be undone", 1, () -> flow.count(10));
-        Check.due("28-34: what throws changes nothing", before, () -> all(flow));
+        Check.due("28-34: what throws changes nothing", before, () -> Flows.look(flow));
         Flows.parse(flow, "source");
         flow.printSink(0);
         Check.due("35: undo", 0, flow::undo);

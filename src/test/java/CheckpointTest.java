@@ -142,11 +142,7 @@ final class CheckpointTest {
         flow.run(500);
         for (int k = 0; k < 16; k++) {
             int key = k;
-            int many = 0;
-            for (int i = 0; k % 4 < flow.count(0) && i < records; i++) {
-                many += flow.record(k % 4, i, 0) == k ? 1 : 0;
-            }
-            int all = many;
+            int all = k % 4 < flow.count(0) ? Flows.recordsOf(key, flow.source(k % 4, 1), records) : 0;
             Check.due("22: shown of key " + k, all, () -> flow.shownOf(key));
             if (all > 0) {
                 Check.due("12: sum of key " + k, flow.expected(key, all), () -> flow.sum(key));

@@ -460,9 +460,7 @@ final class EdgesOfFailures {
         Doc.says("section 6", "The latest 6 changes can be undone;");
         for (int many = 1; many <= 14; many++) {
             BarrierFlow flow = Flows.of("source a records 50 seed 0;every 3;");
-            String[] looks = new String[many + 1];
             for (int n = 0; n < many; n++) {
-                looks[n] = n >= many - 2 || n == many - 6 ? Flows.look(flow) : "";
                 flow.run(1);
             }
             int left = Math.min(many, 6);
@@ -473,7 +471,11 @@ final class EdgesOfFailures {
                 Check.due("undo " + n + " of " + many, still, flow::undo);
                 Check.due("the time", time, () -> flow.count(5));
                 if (n == 1 || n == 6) {
-                    Check.due("all is as it was", looks[many - n], () -> Flows.look(flow));
+                    BarrierFlow other = Flows.of("source a records 50 seed 0;every 3;");
+                    if (time > 0) {
+                        other.run(time);
+                    }
+                    Check.due("all is as it was", Flows.look(other), () -> Flows.look(flow));
                 }
             }
             Check.tooEarly("no more", flow::undo);

@@ -518,10 +518,10 @@ final class EdgesOfText {
     private static BarrierFlow used() {
         BarrierFlow flow = Flows.of("source a records 50 seed 0;source b records 50 seed 8 lag 3;every 5;overtake;"
                 + "instances 3;sinks 2;room 3;");
-        flow.run(21);
+        flow.run(11);
         flow.rescale(4);
         flow.saveState();
-        flow.run(9);
+        flow.run(8);
         flow.setRoom(8);
         flow.setLag(0, 9);
         flow.setEvery(3, false);
@@ -582,7 +582,7 @@ final class EdgesOfText {
             Check.due("no new name", -1, () -> Flows.find(flow, "c"));
             Check.due("changes are kept", 5, flow::undo);
             Check.due("one is undone", -1, () -> flow.progress(0));
-            Check.due("the saved state is kept", 21, flow::restoreState);
+            Check.due("the saved state is kept", 11, flow::restoreState);
         }
     }
 

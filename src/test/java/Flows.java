@@ -45,10 +45,39 @@ final class Flows {
         return flow.find();
     }
 
+    /** The key of a record, by the formula of section 2. */
+    static int keyOf(int source, int seed, int index) {
+        return 4 * ((seed + index * index + index / 2) % 4) + source;
+    }
+
+    /** How many of the first records of its source have a key. */
+    static int recordsOf(int key, int seed, int first) {
+        int many = 0;
+        for (int i = 0; i < first; i++) {
+            many += keyOf(key % 4, seed, i) == key ? 1 : 0;
+        }
+        return many;
+    }
+
+    /** The sum of the values of the first records of a key, if its source has as many. */
+    static int sumOf(int key, int seed, int many) {
+        int sum = 0;
+        int left = many;
+        for (int i = 0; left > 0; i++) {
+            if (keyOf(key % 4, seed, i) == key) {
+                sum += (seed + 7 * i) % 50 + 1;
+                left--;
+            }
+        }
+        return sum;
+    }
+
     static String output(BarrierFlow flow) {
         StringBuilder text = new StringBuilder();
-        for (int i = 0; flow.outputByte(i) != BarrierFlow.NONE; i++) {
-            text.append((char) flow.outputByte(i));
+        int next = flow.outputByte(0);
+        for (int i = 1; next != BarrierFlow.NONE; i++) {
+            text.append((char) next);
+            next = flow.outputByte(i);
         }
         return text.toString();
     }

@@ -1,15 +1,18 @@
 import java.util.Random;
 
-/** Holds the program against the model: the same calls on both, on many objects, with fixed seeds. */
+/** Holds the program against the model: the same 512 calls on both, on many objects, with fixed seeds. */
 final class ModelTest {
-    private static final int OBJECTS = 300;
+    private static final int OBJECTS = 3000;
     private static final int CALLS = 512;
+    // what one round of changes and looks needs at most, but for the output, which looks first what is left
+    private static final int ROUND = 70;
 
     private final BarrierFlow flow = new BarrierFlow();
     private final Model model = new Model();
     private final Random random;
     private final StringBuilder log = new StringBuilder();
     private boolean holds = true;
+    private int left = CALLS;
 
     private ModelTest(int seed) {
         random = new Random(seed);
@@ -24,18 +27,21 @@ final class ModelTest {
             if (!test.holds) {
                 System.out.println("object " + seed + ":\n" + test.log);
             }
-            int shownSeed = seed;
-            Check.due("object " + shownSeed, true, () -> test.holds);
+            Check.due("object " + seed, true, () -> test.holds);
         }
         Check.end("ModelTest");
     }
 
     private void callAll() {
         parseGood();
-        for (int n = 0; n < CALLS && holds; n++) {
-            callOne();
-            if (holds && n % 8 == 7) {
-                compareAll();
+        while (left >= ROUND && holds) {
+            int changes = 1 + below(4);
+            for (int n = 0; n < changes; n++) {
+                callOne();
+            }
+            int looks = below(3) == 0 ? 12 : 4;
+            for (int n = 0; n < looks; n++) {
+                look();
             }
         }
     }
@@ -64,6 +70,7 @@ final class ModelTest {
     }
 
     private void same(String name, Check.Call got, Check.Call due) {
+        left--;
         String a = Check.answerOf(got);
         String b = Check.answerOf(due);
         if (holds) {
@@ -78,6 +85,7 @@ final class ModelTest {
     private void type(String text) {
         flow.truncate(0);
         Flows.type(flow, text);
+        left -= 2 + (text.length() + 19) / 20;
         model.buffer = text;
         log.append("type ").append(text).append('\n');
     }
@@ -209,50 +217,80 @@ final class ModelTest {
         } else {
             int sink = near(0, 1);
             same("printSink " + sink, () -> flow.printSink(sink), () -> model.printSink(sink));
-            same("output", () -> Flows.output(flow), () -> model.output);
-        }
-    }
-
-    private void compareAll() {
-        for (int w = -1; w <= 12; w++) {
-            int what = w;
-            same("count " + what, () -> flow.count(what), () -> model.count(what));
-            same("progress " + what, () -> flow.progress(what), () -> model.progress(what));
-            same("completed " + what, () -> flow.completed(what), () -> model.completed(what));
-        }
-        for (int k = -1; k <= 16; k++) {
-            int key = k;
-            int many = near(1, 40);
-            same("owner " + key, () -> flow.owner(key), () -> model.owner(key));
-            same("sum " + key, () -> flow.sum(key), () -> model.sum(key));
-            same("notedSum " + key, () -> flow.notedSum(key), () -> model.notedSum(key));
-            same("shownOf " + key, () -> flow.shownOf(key), () -> model.shownOf(key));
-            same("expected " + key, () -> flow.expected(key, many), () -> model.expected(key, many));
-        }
-        for (int x = -1; x <= 4; x++) {
-            for (int y = -1; y <= 5; y++) {
-                comparePair(x, y);
+            if (left > model.output.length() + ROUND) {
+                left -= model.output.length();
+                same("output", () -> Flows.output(flow), () -> model.output);
             }
         }
-        same("atRisk", flow::atRisk, model::atRisk);
-        same("repeated", flow::repeated, model::repeated);
-        same("skew", flow::skew, model::skew);
-        same("fullest", flow::fullest, model::fullest);
     }
 
-    private void comparePair(int x, int y) {
+    private void look() {
+        int kind = below(12);
+        if (kind < 2) {
+            lookAtNumbers(near(0, 11));
+        } else if (kind < 4) {
+            lookAtKey(near(0, 15));
+        } else if (kind < 11) {
+            lookAtPair(near(0, below(2) == 0 ? 1 : 3), near(0, below(2) == 0 ? 1 : 4));
+        } else {
+            lookAtAccounts();
+        }
+    }
+
+    private void lookAtNumbers(int what) {
+        int kind = below(3);
+        if (kind == 0) {
+            same("count " + what, () -> flow.count(what), () -> model.count(what));
+        } else if (kind == 1) {
+            same("progress " + what, () -> flow.progress(what), () -> model.progress(what));
+        } else {
+            same("completed " + what, () -> flow.completed(what), () -> model.completed(what));
+        }
+    }
+
+    private void lookAtKey(int key) {
+        int many = near(1, 40);
+        switch (below(5)) {
+            case 0: same("owner " + key, () -> flow.owner(key), () -> model.owner(key)); break;
+            case 1: same("sum " + key, () -> flow.sum(key), () -> model.sum(key)); break;
+            case 2: same("notedSum " + key, () -> flow.notedSum(key), () -> model.notedSum(key)); break;
+            case 3: same("shownOf " + key, () -> flow.shownOf(key), () -> model.shownOf(key)); break;
+            default: same("expected " + key + " " + many, () -> flow.expected(key, many), () -> model.expected(key, many));
+        }
+    }
+
+    private void lookAtAccounts() {
+        switch (below(4)) {
+            case 0: same("atRisk", flow::atRisk, model::atRisk); break;
+            case 1: same("repeated", flow::repeated, model::repeated); break;
+            case 2: same("skew", flow::skew, model::skew); break;
+            default: same("fullest", flow::fullest, model::fullest);
+        }
+    }
+
+    private void lookAtPair(int x, int y) {
         String pair = " " + x + " " + y;
-        int index = near(0, 200);
+        int index = near(0, below(2) == 0 ? 12 : 200);
         int what = near(0, 1);
-        same("source" + pair, () -> flow.source(x, y), () -> model.source(x, y));
-        same("record" + pair, () -> flow.record(x, index, y), () -> model.record(x, index, y));
-        same("instance" + pair, () -> flow.instance(x, y), () -> model.instance(x, y));
-        same("sink" + pair, () -> flow.sink(x, y), () -> model.sink(x, y));
-        same("shown" + pair, () -> flow.shown(x, index, what), () -> model.shown(x, index, what));
-        same("inChannel" + pair, () -> flow.inChannel(x, y, false), () -> model.inChannel(x, y, false));
-        same("inChannel b" + pair, () -> flow.inChannel(x, y, true), () -> model.inChannel(x, y, true));
-        same("outChannel" + pair, () -> flow.outChannel(x, y, false), () -> model.outChannel(x, y, false));
-        same("outChannel b" + pair, () -> flow.outChannel(x, y, true), () -> model.outChannel(x, y, true));
-        same("notedPosition" + pair, () -> flow.notedPosition(x), () -> model.notedPosition(x));
+        boolean barriers = below(3) == 0;
+        switch (below(9)) {
+            case 0: same("source" + pair, () -> flow.source(x, y), () -> model.source(x, y)); break;
+            case 1: same("record" + pair, () -> flow.record(x, index, y), () -> model.record(x, index, y)); break;
+            case 2: same("sink" + pair, () -> flow.sink(x, y), () -> model.sink(x, y)); break;
+            case 3:
+                same("shown " + x + " " + index + " " + what, () -> flow.shown(x, index, what),
+                        () -> model.shown(x, index, what));
+                break;
+            case 4:
+                same("inChannel" + pair + barriers, () -> flow.inChannel(x, y, barriers),
+                        () -> model.inChannel(x, y, barriers));
+                break;
+            case 5:
+                same("outChannel" + pair + barriers, () -> flow.outChannel(x, y, barriers),
+                        () -> model.outChannel(x, y, barriers));
+                break;
+            case 6: same("notedPosition" + pair, () -> flow.notedPosition(x), () -> model.notedPosition(x)); break;
+            default: same("instance" + pair, () -> flow.instance(x, y), () -> model.instance(x, y));
+        }
     }
 }

@@ -44,36 +44,60 @@ final class StateTest {
         Check.due("41: an empty text", -1, () -> flow.outputByte(0));
     }
 
-    private static void printMost() {
+    private static BarrierFlow shows800() {
         BarrierFlow flow = Flows.of("source a records 200 seed 999;source b records 200 seed 999;"
                 + "source c records 200 seed 999;source d records 200 seed 999;instances 4;");
         flow.run(500);
         flow.run(500);
         flow.begin(false);
         flow.run(500);
-        Check.due("14: all 800 are shown", 800, () -> flow.sink(0, 2));
+        return flow;
+    }
+
+    // some 250 results or 450 bytes of each object, which answers 512 calls
+    private static void printMost() {
         StringBuilder text = new StringBuilder();
-        for (int n = 0; n < 800; n++) {
-            text.append('k').append(flow.shown(0, n, 0)).append('=').append(flow.shown(0, n, 1)).append('\n');
-        }
-        Check.due("41: bytes of 800 results", text.length(), () -> flow.printSink(0));
-        Check.due("42: 800 results", text.toString(), () -> Flows.output(flow));
         int greatest = 0;
-        for (int key = 0; key < 16; key++) {
-            greatest = Math.max(greatest, flow.sum(key));
+        for (int from = 0; from < 800; from += 200) {
+            BarrierFlow flow = shows800();
+            Check.due("14: all 800 are shown", 800, () -> flow.sink(0, 2));
+            for (int n = from; n < from + 200; n++) {
+                int sum = flow.shown(0, n, 1);
+                greatest = Math.max(greatest, sum);
+                text.append('k').append(flow.shown(0, n, 0)).append('=').append(sum).append('\n');
+            }
         }
-        int sum = greatest;
-        Check.due("41: with sums of four digits", true, () -> sum > 999);
+        int most = greatest;
+        Check.due("41: with sums of four digits", true, () -> most > 999);
+        for (int from = 0; from < text.length(); from += 450) {
+            BarrierFlow flow = shows800();
+            Check.due("41: bytes of 800 results", text.length(), () -> flow.printSink(0));
+            int end = Math.min(from + 450, text.length());
+            StringBuilder part = new StringBuilder();
+            for (int i = from; i < end; i++) {
+                part.append((char) flow.outputByte(i));
+            }
+            Check.due("42: bytes from " + from, text.substring(from, end), part::toString);
+            Check.due("42: no more", -1, () -> flow.outputByte(text.length()));
+        }
+    }
+
+    private static BarrierFlow afterTicks(int ticks) {
+        BarrierFlow flow = Flows.of(TEXT);
+        Check.tooEarly("44: no state is saved", flow::restoreState);
+        flow.run(ticks);
+        flow.setLag(0, 2);
+        return flow;
     }
 
     private static void save() {
         for (int ticks = 1; ticks < 40; ticks += 2) {
-            BarrierFlow flow = Flows.of(TEXT);
-            Check.tooEarly("44: no state is saved", flow::restoreState);
-            flow.run(ticks);
-            flow.setLag(0, 2);
-            String before = ChangeTest.all(flow);
             int time = ticks;
+            BarrierFlow other = afterTicks(ticks);
+            String before = Flows.look(other);
+            other.run(30);
+            String after = Flows.look(other);
+            BarrierFlow flow = afterTicks(ticks);
             Check.due("43: the time", time, flow::saveState);
             flow.run(13);
             flow.setRoom(7);
@@ -82,15 +106,13 @@ final class StateTest {
             flow.rescale(2);
             flow.run(9);
             Check.due("44: the time", time, flow::restoreState);
-            Check.due("44: everything is as it was", before, () -> ChangeTest.all(flow));
+            Check.due("44: everything is as it was", before, () -> Flows.look(flow));
             Check.due("44: nothing can be undone", 0, () -> flow.count(10));
             Check.tooEarly("44: nothing can be undone then", flow::undo);
-            flow.run(30);
-            String after = ChangeTest.all(flow);
+            flow.run(50);
             Check.due("44: it stays saved", time, flow::restoreState);
-            Check.due("44: everything is as it was again", before, () -> ChangeTest.all(flow));
             flow.run(30);
-            Check.due("44: and goes on as then", after, () -> ChangeTest.all(flow));
+            Check.due("44: and goes on as then", after, () -> Flows.look(flow));
         }
     }
 
@@ -122,10 +144,10 @@ final class StateTest {
         flow.run(3);
         flow.saveState();
         flow.run(4);
-        String later = ChangeTest.all(flow);
+        String later = Flows.look(flow);
         Check.due("43: in place of an earlier one", 7, flow::saveState);
         flow.fail();
         Check.due("44: the later one", 7, flow::restoreState);
-        Check.due("44: all of it", later, () -> ChangeTest.all(flow));
+        Check.due("44: all of it", later, () -> Flows.look(flow));
     }
 }
