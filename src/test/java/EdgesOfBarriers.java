@@ -16,6 +16,7 @@ final class EdgesOfBarriers {
         keepsOnce();
         keepsResults();
         keepsWhatIsTaken();
+        keepsNothingOfOthers();
         keepsNothingBefore();
         keepsNothingBehind();
     }
@@ -266,6 +267,38 @@ final class EdgesOfBarriers {
             Check.due("key 1", row[2], () -> flow.sum(1));
         }
         Check.due("key 5 was noted", 2, () -> flow.sum(5));
+    }
+
+    // the records of source 0 are kept while it has a lag, and none of them when it has none
+    private static void keepsNothingOfOthers() {
+        Doc.says("section 4", "and what had been kept of this channel before stays kept");
+        BarrierFlow flow = Flows.of("source a records 99 seed 0 lag 2;source b records 0 seed 0;room 1;");
+        int[] lags = {2, 0, 0, 2, 2, 0};
+        for (int n = 0; n < lags.length; n++) {
+            int lag = lags[n];
+            flow.setLag(0, lag);
+            flow.begin(true);
+            flow.run(lag + 1);
+            int number = n + 1;
+            Check.due("checkpoint " + number + " keeps its own", number + " " + lag, () -> flow.completed(0) + " "
+                    + flow.completed(4));
+            flow.fail();
+            Check.due("which are there again", lag, () -> flow.inChannel(0, 0, false));
+            flow.run(3);
+            Check.due("and are taken", 0, () -> flow.inChannel(0, 0, false));
+        }
+        flow.setLag(0, 2);
+        flow.begin(true);
+        flow.run(2);
+        Check.due("one in progress", 2, () -> flow.progress(6));
+        flow.fail();
+        flow.setLag(0, 0);
+        flow.begin(true);
+        Check.due("the next one begins with nothing", 0, () -> flow.progress(6));
+        flow.run(1);
+        Check.due("and keeps nothing", "8 0", () -> flow.completed(0) + " " + flow.completed(4));
+        flow.fail();
+        Check.due("nothing of the one that ended", 0, () -> flow.inChannel(0, 0, false));
     }
 
     // both sources have a lag: what is taken before the first barrier comes is in the sums that are noted
